@@ -7,8 +7,8 @@ import java.util.Random;
 
 /** Runs of calls by fixed draws, no longer than an object is used, each asked of NavyOfCats and of NavyModel: their answers are the same. */
 public final class ModelTest {
-    private static final int RUNS = 600;
-    private static final int CALLS = 400;
+    private static final int RUNS = 800;
+    private static final int CALLS = 320;
 
     /** Each call with what its arguments are, so that most draws are inputs that mean something. */
     private static final String[] CALLS_AND_ARGUMENTS = {
@@ -54,8 +54,12 @@ public final class ModelTest {
                 case 0: pair.scene(); break;
                 case 1: pair.log(); break;
                 case 2: pair.told(someText(pair.draws)); break;
+                case 3: pair.fill(); break;
                 default: pair.any(); break;
             }
+        }
+        for (int which = -1; which < 7; which++) {
+            pair.same("status", which);
         }
         if (!pair.agrees) {
             wrong++;
@@ -135,6 +139,14 @@ public final class ModelTest {
             same("begun", s, of);
             same("from", s, of);
             same("judge", s);
+        }
+
+        /** The tape gets as many bytes as it can take, and more; seldom, as it takes many calls. */
+        void fill() throws Exception {
+            int calls = draws.nextInt(4) == 0 ? 40 : 0;
+            for (int i = 0; i < calls; i++) {
+                same("feed", 0x20202020, draws.nextInt(5) == 0 ? 1 : 4);
+            }
         }
 
         void told(String text) throws Exception {

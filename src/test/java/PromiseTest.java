@@ -1,3 +1,5 @@
+import java.util.function.LongSupplier;
+
 /** Each promise of the document by itself, with answers worked out by hand from its words. */
 public final class PromiseTest {
     private static final int BEYOND = -1000001;
@@ -482,14 +484,15 @@ public final class PromiseTest {
         due("at once", y.still(), 0);
         y.go(1);
         due("then it goes east", y.still(), 4);
-        // Four ships that take turns: one of them moves in each of the watches 0 to 60.
-        NavyOfCats z = navy("prize hunger 26 habit 15;prize hunger 3 habit 13;prize hunger 30 habit -12",
-            "cat hunger 24 habit -7;prize hunger 34 habit -9;prize hunger 10 habit -14",
-            "prize hunger 19 habit -14;prize hunger 41 habit 6;wind 7",
-            "ship 0 at 93 order 23 aboard 3;ship 1 at 55 order 4 aboard 12",
-            "ship 2 at 84 order 12 aboard 48;ship 3 at 97 order 13 aboard 192");
+        // Four ships that take turns: one of them moves in each of the watches 0 to 60, none in watch 61.
+        NavyOfCats z = navy("old hunger 18 habit -15;old hunger 6 habit -11;cat hunger 25;cat hunger 17",
+            "prize hunger 33 habit -13;prize hunger 26 habit -6;wind 7",
+            "ship 0 at 54 order 28 aboard 3;ship 1 at 94 order 24 aboard 4",
+            "ship 2 at 81 order 31 aboard 8;ship 3 at 79 order 13 aboard 48");
         due("none", z.still(), NONE);
         due("counted", z.status(3), 1);
+        z.go(1);
+        due("sixty", z.still(), 60);
     }
 
     private static void sits() {
@@ -1127,6 +1130,8 @@ public final class PromiseTest {
         fault("store 100000", 6);
         fault("store 18446744073709551617", 6);
         fault("store x", 6);
+        fault("-".repeat(120), 0);
+        fault("cat;" + " ".repeat(116), 120);
         fault("cat;cat;cat;cat;cat;cat;cat;cat;tom;x", 32);
         fault("cat;cat;cat;cat;cat;cat;cat;cat;  tom hunger 100", 34);
     }
@@ -1500,5 +1505,120 @@ public final class PromiseTest {
         x.load(0);
         x.undo();
         due("undo takes none back", x.status(-1), 13);
+        countedCalls();
+        countedSheets();
+    }
+
+    /** An act tells a finding, and status() knows of it, of that one alone. */
+    private static void counted(NavyOfCats x, int finding, String call, LongSupplier act) {
+        int all = x.status(-1);
+        int such = x.status(BEYOND - finding);
+        due(call, act.getAsLong(), finding);
+        due("all, behind " + call, x.status(-1), all + 1);
+        due("such, behind " + call, x.status(BEYOND - finding), such + 1);
+    }
+
+    private static void countedCalls() {
+        NavyOfCats x = navy("cat hunger 99;store 0");
+        counted(x, BEYOND, "cat", () -> x.cat(7));
+        counted(x, BEYOND, "of", () -> x.of(1, 0));
+        counted(x, BEYOND, "of", () -> x.of(0, 4));
+        counted(x, BEYOND, "change", () -> x.change(1, 0, 0));
+        counted(x, BEYOND, "change", () -> x.change(0, 0, 7));
+        counted(x, BEYOND, "ship", () -> x.ship(4, 0));
+        counted(x, BEYOND, "ship", () -> x.ship(0, 7));
+        counted(x, BEYOND, "steer", () -> x.steer(4, 0, 0));
+        counted(x, BEYOND, "steer", () -> x.steer(0, 0, 100));
+        counted(x, BEYOND, "island", () -> x.island(100, 0));
+        counted(x, BEYOND, "wind", () -> x.wind(8));
+        counted(x, BEYOND, "fish", () -> x.fish(-1));
+        counted(x, BEYOND, "store", () -> x.store(-1));
+        counted(x, BEYOND, "go", () -> x.go(0));
+        counted(x, BEYOND, "feeds", () -> x.feeds(2));
+        counted(x, STATE, "feeds", () -> x.feeds(1));
+        counted(x, BEYOND, "now", () -> x.now(6));
+        counted(x, BEYOND, "ahead", () -> x.ahead(0, 201));
+        counted(x, BEYOND, "lands", () -> x.lands(4));
+        counted(x, NONE, "lands", () -> x.lands(0));
+        counted(x, BEYOND, "meets", () -> x.meets(0, 0));
+        counted(x, BEYOND, "sits", () -> x.sits(0, 201));
+        counted(x, BEYOND, "order", () -> x.order(4));
+        counted(x, NONE, "order", () -> x.order(0));
+        counted(x, BEYOND, "soonest", () -> x.soonest(4));
+        counted(x, NONE, "soonest", () -> x.soonest(0));
+        counted(x, BEYOND, "orders", () -> x.orders(0, 100));
+        counted(x, STATE, "orders", () -> x.orders(0, 0));
+        counted(x, BEYOND, "surest", () -> x.surest(4));
+        counted(x, BEYOND, "winds", () -> x.winds(4));
+        counted(x, BEYOND, "windFor", () -> x.windFor(4));
+        counted(x, NONE, "windFor", () -> x.windFor(0));
+        counted(x, BEYOND, "crew", () -> x.crew(9));
+        counted(x, NONE, "crew", () -> x.crew(2));
+        counted(x, BEYOND, "mean", () -> x.mean(9));
+        counted(x, NONE, "mean", () -> x.mean(2));
+        counted(x, BEYOND, "better", () -> x.better(4));
+        counted(x, BEYOND, "spy", () -> x.spy(0, 0, 41));
+        counted(x, STATE, "spy", () -> x.spy(0, 0, 40));
+        counted(x, BEYOND, "uses", () -> x.uses(0, 0));
+        counted(x, BEYOND, "hunger", () -> x.hunger(201));
+        counted(x, NONE, "hunger", () -> x.hunger(1));
+        counted(x, BEYOND, "storms", () -> x.storms(0));
+        counted(x, BEYOND, "odds", () -> x.odds(0, 2));
+        counted(x, BEYOND, "drives", () -> x.drives(21));
+        counted(x, NONE, "undo", () -> x.undo());
+        counted(x, BEYOND, "count", () -> x.count(8));
+        counted(x, BEYOND, "status", () -> x.status(7));
+    }
+
+    private static void countedSheets() {
+        NavyOfCats x = new NavyOfCats();
+        counted(x, NONE, "better", () -> x.better(0));
+        counted(x, BEYOND, "feed", () -> x.feed(0, 5));
+        for (int i = 0; i < 30; i++) {
+            x.feed(0, 4);
+        }
+        counted(x, FULL, "feed", () -> x.feed(0, 1));
+        for (int i = 0; i < 8; i++) {
+            x.cat(0);
+        }
+        counted(x, FULL, "cat", () -> x.cat(0));
+        counted(x, BEYOND, "hold", () -> x.hold(10, 0));
+        x.hold(0, 0);
+        counted(x, BEYOND, "as", () -> x.as(10, 0));
+        counted(x, MISSING, "as", () -> x.as(1, 0));
+        counted(x, KIND, "as", () -> x.as(0, 1));
+        counted(x, BEYOND, "sheet", () -> x.sheet(4, 8, 0));
+        counted(x, SIZE, "sheet", () -> x.sheet(0, 8, -1));
+        counted(x, BEYOND, "sheet", () -> x.sheet(0, 8, 41));
+        x.sheet(1, 8, 1);
+        x.sheet(2, 16, 1);
+        x.write(1, 0, 50);
+        counted(x, BEYOND, "write", () -> x.write(4, 0, 0));
+        counted(x, MISSING, "write", () -> x.write(0, 0, 0));
+        counted(x, BEYOND, "write", () -> x.write(1, 1, 0));
+        counted(x, BEYOND, "copy", () -> x.copy(4, 0, 1, 0, 0));
+        counted(x, MISSING, "copy", () -> x.copy(0, 0, 1, 0, 0));
+        counted(x, KIND, "copy", () -> x.copy(1, 0, 2, 0, 0));
+        counted(x, BEYOND, "copy", () -> x.copy(1, 0, 1, 0, 2));
+        counted(x, BEYOND, "load", () -> x.load(4));
+        counted(x, MISSING, "load", () -> x.load(0));
+        counted(x, BEYOND, "judge", () -> x.judge(4));
+        counted(x, MISSING, "judge", () -> x.judge(0));
+        counted(x, BEYOND, "kinds", () -> x.kinds(4, 0));
+        counted(x, MISSING, "kinds", () -> x.kinds(0, 0));
+        counted(x, BEYOND, "kinds", () -> x.kinds(1, 8));
+        counted(x, BEYOND, "habits", () -> x.habits(4, 0));
+        counted(x, MISSING, "habits", () -> x.habits(0, 0));
+        counted(x, BEYOND, "habits", () -> x.habits(1, 8));
+        counted(x, BEYOND, "begun", () -> x.begun(4, 0));
+        counted(x, MISSING, "begun", () -> x.begun(0, 0));
+        counted(x, BEYOND, "begun", () -> x.begun(1, 4));
+        counted(x, BEYOND, "from", () -> x.from(4, 0));
+        counted(x, MISSING, "from", () -> x.from(0, 0));
+        counted(x, BEYOND, "from", () -> x.from(1, 4));
+        counted(x, NONE, "from", () -> x.from(1, 0));
+        x.steer(1, 0, 99);
+        x.steer(1, 1, 16);
+        counted(x, NONE, "meets", () -> x.meets(0, 1));
     }
 }
