@@ -444,11 +444,11 @@ public final class NavyOfCats {
 
     private int bestCrew(int k) {
         int best = 0;
-        int nearest = Integer.MAX_VALUE;
+        int nearest = -1;
         for (int set = 1; set < 1 << navy.cats; set++) {
             if (Integer.bitCount(set) == k) {
                 int away = Math.abs(navy.meanOf(set, 0));
-                if (away < nearest) {
+                if (nearest < 0 || away < nearest) {
                     nearest = away;
                     best = set;
                 }
@@ -465,10 +465,10 @@ public final class NavyOfCats {
             return finding(NONE);
         }
         int best = 0;
-        int nearest = Integer.MAX_VALUE;
+        int nearest = -1;
         for (int cat = 0; cat < navy.cats; cat++) {
             int away = Math.abs(navy.meanOf(navy.aboardOf[ship] ^ 1 << cat, 0));
-            if (away < nearest) {
+            if (nearest < 0 || away < nearest) {
                 nearest = away;
                 best = cat;
             }
@@ -1008,7 +1008,7 @@ public final class NavyOfCats {
             int many = 0;
             for (int cat = 0; cat < cats; cat++) {
                 if (isIn(set, cat)) {
-                    sum += errs(cat, n);
+                    sum += errsAs(cat, kindOf[cat], habitOf[cat], n);
                     many++;
                 }
             }
