@@ -1,6 +1,10 @@
 import java.util.function.LongSupplier;
 
-/** Each promise of the document by itself, with answers worked out by hand from its words. */
+/**
+ * Each promise of the document by itself, with answers worked out by hand from its words. Two scenes were found by
+ * a search with the program instead, as their edges are rare: the one of still() with 60, and justInTime(), of which
+ * only the way by order 3 was gone by hand. SceneTest asks NavyModel about these two.
+ */
 public final class PromiseTest {
     private static final int BEYOND = -1000001;
     private static final int FULL = -1000002;
