@@ -1,59 +1,7 @@
 import java.util.function.LongSupplier;
 
-/**
- * Each promise of the document by itself, with answers worked out by hand from its words. Two scenes were found by
- * a search with the program instead, as their edges are rare: the one of still() with 60, and justInTime(), of which
- * only the way by order 3 was gone by hand. SceneTest asks NavyModel about these two.
- */
-public final class PromiseTest {
-    private static final int BEYOND = -1000001;
-    private static final int FULL = -1000002;
-    private static final int KIND = -1000003;
-    private static final int NONE = -1000004;
-    private static final int STATE = -1000005;
-    private static final int MISSING = -1000006;
-    private static final int SIZE = -1000007;
-    private static final int LEAST = Integer.MIN_VALUE;
-    private static final int MOST = Integer.MAX_VALUE;
-
-    private static int asked = 0;
-    private static int wrong = 0;
-    private static int promise = 0;
-
-    private static void due(String call, long got, long want) {
-        asked++;
-        if (got != want) {
-            wrong++;
-            System.out.println("promise " + promise + ": " + call + " answered " + got + ", due is " + want);
-        }
-    }
-
-    private static void feed(NavyOfCats x, String text) {
-        for (int i = 0; i < text.length(); i++) {
-            x.feed(text.charAt(i), 1);
-        }
-    }
-
-    private static int told(NavyOfCats x, String text) {
-        feed(x, text);
-        return x.text();
-    }
-
-    private static NavyOfCats navy(String... texts) {
-        NavyOfCats x = new NavyOfCats();
-        for (String text : texts) {
-            due("text \"" + text + "\"", told(x, text), text.split(";").length);
-        }
-        return x;
-    }
-
-    private static void sheetOf(NavyOfCats x, int s, int bits, int... numbers) {
-        x.sheet(s, bits, numbers.length);
-        for (int i = 0; i < numbers.length; i++) {
-            x.write(s, i, numbers[i]);
-        }
-    }
-
+/** Each promise of the document by itself, with answers worked out by hand from its words. */
+public final class PromiseTest extends Checks {
     public static void main(String[] args) {
         catsShipsSea();
         watches();
@@ -66,23 +14,20 @@ public final class PromiseTest {
         texts();
         spotsAndSheets();
         images();
-        System.out.println("PromiseTest: " + asked + " answers, " + wrong + " of them not as due");
-        if (wrong != 0) {
-            System.exit(1);
-        }
+        end("PromiseTest");
     }
 
     private static void catsShipsSea() {
-        promise = 1; aNewObject();
-        promise = 2; cat();
-        promise = 3; of();
-        promise = 4; change();
-        promise = 5; ship();
-        promise = 6; steer();
-        promise = 7; island();
-        promise = 8; wind();
-        promise = 9; fish();
-        promise = 10; store();
+        promise(1); aNewObject();
+        promise(2); cat();
+        promise(3); of();
+        promise(4); change();
+        promise(5); ship();
+        promise(6); steer();
+        promise(7); island();
+        promise(8); wind();
+        promise(9); fish();
+        promise(10); store();
     }
 
     private static void aNewObject() {
@@ -332,9 +277,9 @@ public final class PromiseTest {
     }
 
     private static void watches() {
-        promise = 11; go();
-        promise = 12; feeds();
-        promise = 13; now();
+        promise(11); go();
+        promise(12); feeds();
+        promise(13); now();
     }
 
     private static void go() {
@@ -399,11 +344,11 @@ public final class PromiseTest {
     }
 
     private static void whatWillBe() {
-        promise = 14; ahead();
-        promise = 15; lands();
-        promise = 16; meets();
-        promise = 17; still();
-        promise = 18; sits();
+        promise(14); ahead();
+        promise(15); lands();
+        promise(16); meets();
+        promise(17); still();
+        promise(18); sits();
     }
 
     private static void ahead() {
@@ -447,14 +392,6 @@ public final class PromiseTest {
         due("156", y.lands(0), 156);
     }
 
-    /**
-     * A tom who has 90 from watch 90 on, and fish once in 16: along the north its ship heads east by 9 and 2 alone
-     * (north-east, or what is left of it, by all else), so with fish at t 7 at watches 103, 119 .. 199: to cell 7.
-     */
-    private static NavyOfCats lateByFish(int fish) {
-        return navy("tom;fish " + fish + ";ship 0 order 27 aboard 1;island 7;ship 1 at 7");
-    }
-
     private static void meets() {
         NavyOfCats x = navy("ship 0 at 50 order 8;ship 1 at 54 order 24;ship 2 at 53 order 24;ship 3 at 55 order 0;wind 4");
         due("two", x.meets(0, 1), 2);
@@ -488,11 +425,9 @@ public final class PromiseTest {
         due("at once", y.still(), 0);
         y.go(1);
         due("then it goes east", y.still(), 4);
-        // Four ships that take turns: one of them moves in each of the watches 0 to 60, none in watch 61.
-        NavyOfCats z = navy("old hunger 18 habit -15;old hunger 6 habit -11;cat hunger 25;cat hunger 17",
-            "prize hunger 33 habit -13;prize hunger 26 habit -6;wind 7",
-            "ship 0 at 54 order 28 aboard 3;ship 1 at 94 order 24 aboard 4",
-            "ship 2 at 81 order 31 aboard 8;ship 3 at 79 order 13 aboard 48");
+        // One ship moves in each of the watches 0 to 59, and in watch 60 the last one still, if it has a cell more to go.
+        due("sixty", takingTurns(3).still(), 60);
+        NavyOfCats z = takingTurns(2);
         due("none", z.still(), NONE);
         due("counted", z.status(3), 1);
         z.go(1);
@@ -517,12 +452,12 @@ public final class PromiseTest {
     }
 
     private static void orders() {
-        promise = 19; order();
-        promise = 20; soonest();
-        promise = 21; ordersAt();
-        promise = 22; surest();
-        promise = 23; winds();
-        promise = 24; windFor();
+        promise(19); order();
+        promise(20); soonest();
+        promise(21); ordersAt();
+        promise(22); surest();
+        promise(23); winds();
+        promise(24); windFor();
     }
 
     private static NavyOfCats islandsAround() {
@@ -545,7 +480,7 @@ public final class PromiseTest {
         due("no ship", x.order(-1), BEYOND);
         NavyOfCats y = navy("cat hunger 30;ship 1 at 55 aboard 1;island 56");
         due("with an error", y.order(1), 3);
-        due("behind 60", justInTime(2048).order(0), 3);
+        due("behind 60", justInTime(2048).order(0), 27);
         due("behind 61", justInTime(4096).order(0), NONE);
     }
 
@@ -561,14 +496,6 @@ public final class PromiseTest {
         due("no ship", x.soonest(-1), BEYOND);
         due("behind 60", justInTime(2048).soonest(0), 60);
         due("behind 61", justInTime(4096).soonest(0), NONE);
-    }
-
-    /**
-     * By order 3 a tom leads east along the north, then waits at its end: only with fish, from watch 43 on,
-     * it reads 11 and goes south, to 29 by the second time. With fish at t 11 that is watch 59, at t 12 watch 60.
-     */
-    private static NavyOfCats justInTime(int fish) {
-        return navy("tom hunger 56;fish " + fish + ";wind 7;ship 0 at 2 order 3 aboard 1;island 29");
     }
 
     private static void ordersAt() {
@@ -588,8 +515,8 @@ public final class PromiseTest {
         due("findings", x.status(-1), 5);
         NavyOfCats y = navy("ship 0 at 55;island 45;wind 4");
         due("north", y.orders(0, 45), 1L << 31 | 1L << 30 | 3);
-        due("behind 60", justInTime(2048).orders(0, 29), 1 << 3);
-        due("behind 61", justInTime(4096).orders(0, 29), 0);
+        due("behind 60", justInTime(2048).orders(0, 5), 3L << 27);
+        due("behind 61", justInTime(4096).orders(0, 5), 0);
     }
 
     private static void surest() {
@@ -603,7 +530,7 @@ public final class PromiseTest {
         due("no ship", x.surest(-1), BEYOND);
         due("wind stays", x.now(2), 0);
         due("by 1", turns().surest(0), 1);
-        due("behind 60", justInTime(2048).surest(0), 3);
+        due("behind 60", justInTime(2048).surest(0), 27);
         due("behind 61", justInTime(4096).surest(0), 0);
     }
 
@@ -625,7 +552,7 @@ public final class PromiseTest {
         due("no ship", x.winds(-1), BEYOND);
         due("wind stays", x.now(2), 0);
         due("by 1", turns().winds(0), 8);
-        due("behind 60, but not from east or south", justInTime(2048).winds(0), 6);
+        due("behind 60, but not from north-east or east", justInTime(2048).winds(0), 6);
         due("behind 61", justInTime(4096).winds(0), 0);
     }
 
@@ -650,10 +577,10 @@ public final class PromiseTest {
     }
 
     private static void whoIsAboard() {
-        promise = 25; crew();
-        promise = 26; mean();
-        promise = 27; better();
-        promise = 28; spy();
+        promise(25); crew();
+        promise(26); mean();
+        promise(27); better();
+        promise(28); spy();
     }
 
     private static NavyOfCats fourCats() {
@@ -732,8 +659,8 @@ public final class PromiseTest {
     }
 
     private static void stores() {
-        promise = 29; uses();
-        promise = 30; hunger();
+        promise(29); uses();
+        promise(30); hunger();
     }
 
     private static void uses() {
@@ -775,10 +702,10 @@ public final class PromiseTest {
     }
 
     private static void logs() {
-        promise = 31; kinds();
-        promise = 32; habits();
-        promise = 33; begun();
-        promise = 34; from();
+        promise(31); kinds();
+        promise(32); habits();
+        promise(33); begun();
+        promise(34); from();
     }
 
     private static void kinds() {
@@ -893,10 +820,10 @@ public final class PromiseTest {
     }
 
     private static void storms() {
-        promise = 35; storm();
-        promise = 36; odds();
-        promise = 37; drives();
-        promise = 38; seed();
+        promise(35); storm();
+        promise(36); odds();
+        promise(37); drives();
+        promise(38); seed();
     }
 
     private static void storm() {
@@ -990,9 +917,9 @@ public final class PromiseTest {
     }
 
     private static void texts() {
-        promise = 39; feed();
-        promise = 40; wipe();
-        promise = 41; text();
+        promise(39); feed();
+        promise(40); wipe();
+        promise(41); text();
         faults();
         faultsOfShips();
         textsChangeNothingWithAFault();
@@ -1178,13 +1105,13 @@ public final class PromiseTest {
     }
 
     private static void spotsAndSheets() {
-        promise = 42; hold();
-        promise = 43; as();
-        promise = 44; sheet();
-        promise = 45; write();
-        promise = 46; copy();
-        promise = 47; load();
-        promise = 48; judge();
+        promise(42); hold();
+        promise(43); as();
+        promise(44); sheet();
+        promise(45); write();
+        promise(46); copy();
+        promise(47); load();
+        promise(48); judge();
     }
 
     private static void hold() {
@@ -1370,11 +1297,11 @@ public final class PromiseTest {
     }
 
     private static void images() {
-        promise = 49; image();
-        promise = 50; undo();
-        promise = 51; tear();
-        promise = 52; count();
-        promise = 53; status();
+        promise(49); image();
+        promise(50); undo();
+        promise(51); tear();
+        promise(52); count();
+        promise(53); status();
     }
 
     private static void image() {
