@@ -513,6 +513,11 @@ public final class EdgeTest extends Checks {
         due("watch", x.now(0), 60);
         due("one", x.go(1), 0);
         due("watch", x.now(0), 61);
+        NavyOfCats eight = withCats(8);
+        eight.go(1);
+        due("each of the most cats that there can be", eight.count(4), 8);
+        eight.storms(1);
+        due("each of them", eight.count(4), 16);
         says(12, "A set of CATS is FED: what STORE is then. STATE: STORE is less");
         for (int fed = 1; fed <= 8; fed++) {
             NavyOfCats y = navy("cat hunger 9;cat hunger 9;cat hunger 9;cat hunger 9", "cat hunger 9;cat hunger 9;cat hunger 9;cat hunger 9");
@@ -569,6 +574,7 @@ public final class EdgeTest extends Checks {
         due("the last watch", x.now(0), 99999);
         due("one more", x.go(1), STATE);
         due("none is BEYOND", x.go(0), BEYOND);
+        due("counted", x.status(4), 3);
         due("the last watch is kept", x.count(0), 99999);
         says(35, "STATE: WATCH would be above 99999");
         due("a storm", x.storms(1), STATE);
@@ -581,6 +587,7 @@ public final class EdgeTest extends Checks {
         due("the last watch", x.now(0), 99999);
         due("one more", x.storms(1), STATE);
         due("the last watch is kept", x.now(0), 99999);
+        due("counted", x.status(4), 6);
     }
 
     // ---- what will be

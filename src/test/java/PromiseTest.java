@@ -177,6 +177,15 @@ public final class PromiseTest extends Checks {
         due("landed", x.ship(1, 6), 1);
         due("stays", x.ship(1, 5), 55);
         ends(x);
+        // A kitten sits by -2 in watch 0 and by -1 in watch 1; a cat of 59 by 5 and then by 6.
+        NavyOfCats y = navy("kitten;cat hunger 59;ship 0 at 55 order 1 aboard 1;ship 3 at 55 aboard 2");
+        due("reads now", y.ship(0, 3), -2);
+        due("course now", y.ship(0, 4), 31);
+        due("north-east by 5", y.ship(3, 5), 46);
+        y.go(1);
+        due("reads then", y.ship(0, 3), -1);
+        due("course then", y.ship(0, 4), 0);
+        due("east by 6", y.ship(3, 5), 47);
         due("no ship", x.ship(4, 0), BEYOND);
         due("no ship", x.ship(-1, 0), BEYOND);
         due("what 7", x.ship(0, 7), BEYOND);
@@ -311,6 +320,12 @@ public final class PromiseTest extends Checks {
         y.steer(0, 1, 27);
         y.go(1);
         due("by 6", y.ship(0, 0), 34 - 10);
+        NavyOfCats four = navy("ship 0 at 55 order 8;ship 1 at 55 order 12;ship 2 at 55 order 16;ship 3 at 55 order 20");
+        four.go(2);
+        int[] cells = {57, 77, 75, 73};
+        for (int ship = 0; ship < 4; ship++) {
+            due("each of the four", four.ship(ship, 0), cells[ship]);
+        }
     }
 
     private static void feeds() {
@@ -341,6 +356,7 @@ public final class PromiseTest extends Checks {
         due("what 6", x.now(6), BEYOND);
         due("what -1", x.now(-1), BEYOND);
         due("no cats", new NavyOfCats().now(4), 0);
+        due("the first is the hungriest", navy("cat hunger 60;cat hunger 5").now(4), 60);
     }
 
     private static void whatWillBe() {
@@ -482,6 +498,16 @@ public final class PromiseTest extends Checks {
         due("with an error", y.order(1), 3);
         due("behind 60", justInTime(2048).order(0), 27);
         due("behind 61", justInTime(4096).order(0), NONE);
+        due("the last order", byTheLast().order(0), 31);
+    }
+
+    /**
+     * A cat of 29 reads 2, and 3 from watch 1 on: by 28 to 31 a ship goes north first, to 45, and then by 31 alone
+     * (course 2) north-east, to 36. All others turn too late, at the sea's ends; so it is by every wind but those
+     * from north and north-east, which keep it from either cell.
+     */
+    private static NavyOfCats byTheLast() {
+        return navy("cat hunger 29;ship 0 at 55 aboard 1;island 36;wind 4");
     }
 
     private static void soonest() {
@@ -496,6 +522,7 @@ public final class PromiseTest extends Checks {
         due("no ship", x.soonest(-1), BEYOND);
         due("behind 60", justInTime(2048).soonest(0), 60);
         due("behind 61", justInTime(4096).soonest(0), NONE);
+        due("by the last order", byTheLast().soonest(0), 2);
     }
 
     private static void ordersAt() {
@@ -517,6 +544,9 @@ public final class PromiseTest extends Checks {
         due("north", y.orders(0, 45), 1L << 31 | 1L << 30 | 3);
         due("behind 60", justInTime(2048).orders(0, 5), 3L << 27);
         due("behind 61", justInTime(4096).orders(0, 5), 0);
+        due("31 alone", byTheLast().orders(0, 36), 0x80000000L);
+        // Fish in watch 0: by 23 and 24 a starved tom's ship goes north-east once and then north, to 6; by none else.
+        due("the first watch", navy("tom hunger 99;fish 1;ship 0 at 55 aboard 1;island 6;wind 4").orders(0, 6), 3L << 23);
     }
 
     private static void surest() {
@@ -530,6 +560,7 @@ public final class PromiseTest extends Checks {
         due("no ship", x.surest(-1), BEYOND);
         due("wind stays", x.now(2), 0);
         due("by 1", turns().surest(0), 1);
+        due("the last order", byTheLast().surest(0), 31);
         due("behind 60", justInTime(2048).surest(0), 27);
         due("behind 61", justInTime(4096).surest(0), 0);
     }
@@ -552,6 +583,7 @@ public final class PromiseTest extends Checks {
         due("no ship", x.winds(-1), BEYOND);
         due("wind stays", x.now(2), 0);
         due("by 1", turns().winds(0), 8);
+        due("by the last order", byTheLast().winds(0), 6);
         due("behind 60, but not from north-east or east", justInTime(2048).winds(0), 6);
         due("behind 61", justInTime(4096).winds(0), 0);
     }
@@ -602,6 +634,11 @@ public final class PromiseTest extends Checks {
         x.change(0, 2, -3);
         due("the least of two", x.crew(1), 1);
         due("no cats", new NavyOfCats().crew(1), NONE);
+        // Now a kitten sits by -2 and a cat of 19 by 1, behind a watch by -1 and by 2.
+        NavyOfCats y = navy("kitten;cat hunger 19");
+        due("now", y.crew(1), 2);
+        y.go(1);
+        due("then", y.crew(1), 1);
     }
 
     private static void mean() {
@@ -615,6 +652,10 @@ public final class PromiseTest extends Checks {
         due("nine", x.mean(9), BEYOND);
         x.change(0, 2, -3);
         due("below 0", x.mean(1), -3);
+        NavyOfCats y = navy("kitten;cat hunger 19");
+        due("now", y.mean(1), 1);
+        y.go(1);
+        due("then", y.mean(1), -1);
     }
 
     private static void better() {
@@ -634,6 +675,10 @@ public final class PromiseTest extends Checks {
         due("no cats", new NavyOfCats().better(0), NONE);
         due("no ship", x.better(4), BEYOND);
         due("no ship, no cats", new NavyOfCats().better(-1), BEYOND);
+        NavyOfCats y = navy("kitten;cat hunger 19");
+        due("now", y.better(3), 1);
+        y.go(1);
+        due("then", y.better(3), 0);
     }
 
     private static void spy() {
@@ -656,6 +701,33 @@ public final class PromiseTest extends Checks {
         x.steer(0, 0, 99);
         x.wind(4);
         due("a kitten is the first to go north", x.spy(0, 0, 1), 2);
+        spiedFar();
+    }
+
+    /**
+     * By order 23 a starved cat, tom, kitten or black goes north for three watches (courses 30 to 1), a blind
+     * north-west (27); an old one and a prize as the habit is: -15 east and west, 0 west and east, -7 both south.
+     */
+    private static void spiedFar() {
+        int[][] habitWindCellWatchesKind = {
+            // Due c + 1; north is 1 and 1 away, north-west 1 and 2, west 0 and 2: a blind. Thrice: 3 and 3, 3 and 6, 0 and 6.
+            {-15, 4, 55, 1, 5}, {-15, 4, 28, 1, 5}, {-15, 4, 82, 1, 5}, {-15, 4, 55, 3, 5}, {-15, 4, 83, 3, 5}, {-15, 4, 36, 3, 5},
+            // At the west's end north is 1 and 1 away, and blind and prize wait, 0 and 1.
+            {-15, 4, 50, 1, 0},
+            // At the north's end all wait, 0 and 1, but the prize, 0 and 2.
+            {-15, 4, 5, 1, 4},
+            // Due c - 1: north is 1 and 1 away, north-west 1 and 0, east 0 and 2.
+            {0, 4, 55, 1, 0}, {0, 4, 28, 3, 0},
+            // Due 14: north 7 is 1 and 3 away, north-west 6 is 1 and 2, east 19 is 0 and 5.
+            {0, 4, 17, 3, 4},
+            // Due 30 further south: north is 6 and 0 away, north-west 6 and 3; from 52 it is 30, 5 and 2; from 51 it is 40, 4 and 1.
+            {-7, 2, 55, 3, 5}, {-7, 2, 52, 3, 5}, {-7, 2, 51, 3, 0}, {-7, 2, 50, 3, 0}};
+        for (int[] row : habitWindCellWatchesKind) {
+            NavyOfCats x = navy("old hunger 99;ship 0 at " + row[2] + " order 23 aboard 1;wind " + row[1]);
+            x.change(0, 2, row[0]);
+            due("habit " + row[0] + " from " + row[2] + " behind " + row[3], x.spy(0, 0, row[3]), row[4]);
+            due("kind stays", x.of(0, 0), 3);
+        }
     }
 
     private static void stores() {
@@ -817,6 +889,18 @@ public final class PromiseTest extends Checks {
         due("missing", x.from(3, 4), MISSING);
         due("no ship", x.from(0, 4), BEYOND);
         due("no ship", x.from(0, -1), BEYOND);
+        // The only one that isn't landed in row 9 goes north.
+        NavyOfCats last = navy("wind 4");
+        for (int cell = 90; cell < 99; cell++) {
+            last.island(cell, 1);
+        }
+        sheetOf(last, 0, 8, 9, 8);
+        due("the last cell", last.from(0, 0), 99);
+        due("alone", last.begun(0, 0), 1);
+        // North-east twice by 5, and then east by 6.
+        NavyOfCats y = navy("cat hunger 58;ship 0 at 0 aboard 1;wind 4");
+        sheetOf(y, 1, 16, 3, 2, 1, 1, 1);
+        due("by what it reads", y.from(1, 0), 30);
     }
 
     private static void storms() {
@@ -1298,6 +1382,7 @@ public final class PromiseTest extends Checks {
 
     private static void images() {
         promise(49); image();
+        imageOfAFullNavy();
         promise(50); undo();
         promise(51); tear();
         promise(52); count();
@@ -1346,6 +1431,43 @@ public final class PromiseTest extends Checks {
         due("sheets stay", x.load(2), 1);
         due("a new cat", x.cat(0), 1);
         due("is as at first", x.of(1, 1), 0);
+    }
+
+    /** The last of everything there is, and the first, is kept too. */
+    private static void imageOfAFullNavy() {
+        NavyOfCats x = withCats(8);
+        told(x, "island 0;island 99;ship 3 at 98 order 30 aboard 129;ship 0 at 97 order 29 aboard 128");
+        int[] last = {6, 77, -9};
+        int[] shipsLast = {98, 30, 129};
+        int[] shipsFirst = {97, 29, 128};
+        for (int what = 0; what < 3; what++) {
+            x.change(7, what, last[what]);
+            x.change(0, what, last[what] + (what == 2 ? 1 : -1));
+        }
+        x.hold(9, 7);
+        x.hold(0, 6);
+        x.image();
+        for (int what = 0; what < 3; what++) {
+            x.change(7, what, 0);
+            x.change(0, what, 0);
+            x.steer(3, what, 1);
+            x.steer(0, what, 1);
+        }
+        x.hold(9, -1);
+        x.hold(0, -1);
+        x.island(0, 0);
+        x.island(99, 0);
+        x.undo();
+        for (int what = 0; what < 3; what++) {
+            due("the 8th cat", x.of(7, what), last[what]);
+            due("the first", x.of(0, what), last[what] + (what == 2 ? 1 : -1));
+            due("ship 3", x.ship(3, what), shipsLast[what]);
+            due("ship 0", x.ship(0, what), shipsFirst[what]);
+        }
+        due("spot 9", x.as(9, 6), 7);
+        due("spot 0", x.as(0, 0), 6);
+        due("island 0", x.island(0, 1), 0);
+        due("island 99", x.island(99, 1), 0);
     }
 
     private static void undo() {
