@@ -6,6 +6,8 @@ import java.nio.file.Files;
 import java.nio.file.Path;
 import java.util.ArrayList;
 import java.util.List;
+import java.util.Map;
+import java.util.TreeMap;
 import java.util.TreeSet;
 import java.util.regex.Matcher;
 import java.util.regex.Pattern;
@@ -29,6 +31,7 @@ public final class LanguageTest {
         "\\bObject\\b", "\\bThread\\b", "\\bRandom\\b", "\\bhashCode\\b", "\\btoString\\b"};
 
     private static final int MOST_LINES = 60;
+    private static final int MOST_DEEP = 8;
 
     private static int wrong = 0;
 
@@ -45,7 +48,9 @@ public final class LanguageTest {
         face();
         rulesOfTheFile(code);
         namesOfMethods();
-        lengthsOfMethods(code);
+        TreeMap<String, String> bodies = bodiesOfMethods(code);
+        lengthsOfMethods(bodies);
+        depthOfCalls(bodies);
         System.out.println("LanguageTest: " + wrong + " rules are broken");
         if (wrong != 0) {
             System.exit(1);
@@ -122,19 +127,63 @@ public final class LanguageTest {
         }
     }
 
-    private static void lengthsOfMethods(String code) {
-        String begin = "";
-        int lines = 0;
+    /** What stands in each method, by its name; those of one name (there are none now) stand together. */
+    private static TreeMap<String, String> bodiesOfMethods(String code) {
+        TreeMap<String, String> bodies = new TreeMap<>();
+        Pattern head = Pattern.compile("( {4}(?: {4})?)(?!if|for|while|switch)\\w.*?(\\w+)\\(.*\\) \\{");
+        String name = "";
+        String end = "";
+        StringBuilder body = new StringBuilder();
         for (String line : code.split("\n")) {
-            if (line.matches(" {4}( {4})?[\\w].*\\) \\{")) {
-                begin = line.trim();
-                lines = 0;
-            }
-            lines++;
-            if (line.matches(" {4}( {4})?\\}")) {
-                need(begin.isEmpty() || lines <= MOST_LINES, begin + " has " + lines + " lines");
-                begin = "";
+            Matcher m = head.matcher(line);
+            if (m.matches()) {
+                name = m.group(2);
+                end = m.group(1) + "}";
+                body.setLength(0);
+            } else if (line.equals(end) && !name.isEmpty()) {
+                bodies.merge(name, body.toString(), String::concat);
+                name = "";
+            } else {
+                body.append(line).append('\n');
             }
         }
+        for (Method method : NavyOfCats.class.getDeclaredMethods()) {
+            need(bodies.containsKey(method.getName()), method.getName() + " isn't seen in the file");
+        }
+        return bodies;
+    }
+
+    private static void lengthsOfMethods(Map<String, String> bodies) {
+        for (Map.Entry<String, String> method : bodies.entrySet()) {
+            int lines = method.getValue().split("\n").length + 2;
+            need(lines <= MOST_LINES, method.getKey() + " has " + lines + " lines");
+        }
+    }
+
+    private static void depthOfCalls(Map<String, String> bodies) {
+        TreeMap<String, Integer> depths = new TreeMap<>();
+        for (String name : bodies.keySet()) {
+            int deep = depth(name, bodies, depths, new TreeSet<>());
+            need(deep <= MOST_DEEP, name + " goes " + deep + " calls deep");
+        }
+    }
+
+    /** How many calls stand open at once when a method is called, its own among them; 99 if it calls itself. */
+    private static int depth(String name, Map<String, String> bodies, Map<String, Integer> depths, TreeSet<String> open) {
+        if (!open.add(name)) {
+            return 99;
+        }
+        if (!depths.containsKey(name)) {
+            int most = 0;
+            Matcher calls = Pattern.compile("(\\w+)\\(").matcher(bodies.get(name));
+            while (calls.find()) {
+                if (bodies.containsKey(calls.group(1))) {
+                    most = Math.max(most, depth(calls.group(1), bodies, depths, open));
+                }
+            }
+            depths.put(name, most + 1);
+        }
+        open.remove(name);
+        return depths.get(name);
     }
 }
