@@ -11,7 +11,8 @@ import java.util.regex.Pattern;
 /**
  * Makes a test of a page that shows how NavyOfCats is used, and prints it: a class ReadmeUse, in which each call of
  * the page's Java blocks must answer the number behind it. Ends with 1 where the page shows a call without an answer,
- * leaves a method of the face out, or names a finding by another number than NavyOfCats tells.
+ * leaves a method of the face out, names a finding by another number than NavyOfCats tells, or shows a text that is
+ * none.
  */
 public final class ReadmeReader {
     private static final String BEGIN = "NavyOfCats navy = new NavyOfCats();";
@@ -31,6 +32,7 @@ public final class ReadmeReader {
         end();
         allIsShown();
         readFindings(page);
+        readTexts(page);
         System.out.print(made);
         if (wrong != 0) {
             System.exit(1);
@@ -131,6 +133,22 @@ public final class ReadmeReader {
             }
         }
         need(rows == FINDINGS, "there are " + FINDINGS + " findings, the page has " + rows);
+    }
+
+    /** Each line of the page's text blocks is a text, with as many items as it seems to have. */
+    private static void readTexts(List<String> page) {
+        int texts = 0;
+        boolean inside = false;
+        for (String line : page) {
+            if (line.startsWith("```")) {
+                inside = line.equals("```text");
+            } else if (inside) {
+                texts++;
+                int items = Checks.told(new NavyOfCats(), line);
+                need(items == line.split(";").length, "\"" + line + "\" answers " + items);
+            }
+        }
+        need(texts > 0, "no text is shown");
     }
 
     /** A call that tells a finding by the words of its promise. */
